@@ -68,55 +68,40 @@ public final class DaysTest {
         CHECKS.due("over(-1, 2)", x.over(-1, 2), CandleCourt.UNKNOWN);
     }
 
-    private static void sides(CandleCourt x, int plaintiffs, int defendants, int poor, int worths) {
-        CHECKS.due("won(0)", x.won(0), plaintiffs);
-        CHECKS.due("won(1)", x.won(1), defendants);
-        CHECKS.due("won(2)", x.won(2), poor);
-        CHECKS.due("won(3)", x.won(3), worths);
-    }
-
     private static void won() {
         CandleCourt x = Checks.court(FOUR);
-        sides(x, 100, 25, 0, 125);
+        CHECKS.won(x, 100, 25, 0, 125);
         x.set(1, 4);
-        sides(x, 10 + 20, 0, 0, 10);
+        CHECKS.won(x, 10 + 20, 0, 0, 10);
         x.set(3, 1);
-        sides(x, 10, 0, 20, 10);
+        CHECKS.won(x, 10, 0, 20, 10);
         x.set(1, 3);
-        sides(x, 10, 20, 5, 30);
+        CHECKS.won(x, 10, 20, 5, 30);
         x.set(3, 0);
-        sides(x, 15, 20, 0, 30);
+        CHECKS.won(x, 15, 20, 0, 30);
         CHECKS.due("won(-1)", x.won(-1), CandleCourt.OUTSIDE);
         CHECKS.due("won(4)", x.won(4), CandleCourt.OUTSIDE);
-        sides(new CandleCourt(), 0, 0, 0, 0);
-    }
-
-    private static void best(CandleCourt x, int side, int has, String order) {
-        CHECKS.due("order(" + side + ", -1)", x.order(side, -1), has);
-        for (int i = 0; i < order.length(); i++) {
-            CHECKS.due("order(" + side + ", " + i + ")", x.order(side, i), order.charAt(i) - '0');
-        }
-        CHECKS.due("order(side, suits)", x.order(side, order.length()), CandleCourt.NONE);
+        CHECKS.won(new CandleCourt(), 0, 0, 0, 0);
     }
 
     private static void orders() {
         CandleCourt x = Checks.court(FOUR);
         x.set(1, 3);
         Checks.lay(x, "1230");
-        best(x, 0, 110, "3102");
-        best(x, 1, 25, "1203");
-        best(x, 2, 0, "0123");
-        best(x, 3, 90, "3012");
+        CHECKS.best(x, 0, 110, "3102");
+        CHECKS.best(x, 1, 25, "1203");
+        CHECKS.best(x, 2, 0, "0123");
+        CHECKS.best(x, 3, 90, "3012");
         x.set(3, 1);
-        best(x, 0, 90, "3012");
-        best(x, 2, 90, "0132");
+        CHECKS.best(x, 0, 90, "3012");
+        CHECKS.best(x, 2, 90, "0132");
         CHECKS.due("the order itself stays", x.told(10), 1);
         CHECKS.due("order(-1, 0)", x.order(-1, 0), CandleCourt.OUTSIDE);
         CHECKS.due("order(4, -1)", x.order(4, -1), CandleCourt.OUTSIDE);
         CHECKS.due("order(4, 9)", x.order(4, 9), CandleCourt.OUTSIDE);
         CHECKS.due("order(0, -2)", x.order(0, -2), CandleCourt.NONE);
-        best(new CandleCourt(), 3, 0, "");
-        best(Checks.court("1+1=0p"), 0, 0, "0");
+        CHECKS.best(new CandleCourt(), 3, 0, "");
+        CHECKS.best(Checks.court("1+1=0p"), 0, 0, "0");
     }
 
     private static void wax() {

@@ -87,5 +87,16 @@ public final class FaceTest {
         for (String rule : outside) {
             CHECKS.holds("no " + rule + " in the source", !Pattern.compile(rule).matcher(code).find());
         }
+        noCallMakesObjects(code);
+    }
+
+    /** All calls of a run live in one room: rows are made by the constructor or as fields of what it makes. */
+    private static void noCallMakesObjects(String code) {
+        int constructorEnds = code.indexOf("public int set(");
+        CHECKS.holds("the constructor comes first", constructorEnds > 0);
+        for (String line : code.substring(Math.max(0, constructorEnds)).split("\n")) {
+            boolean makes = Pattern.compile("\\bnew\\b").matcher(line).find();
+            CHECKS.holds("made in a call: " + line, !makes || line.matches(" {8}final int\\[\\] \\w+ = new int\\[\\w+\\];"));
+        }
     }
 }
