@@ -20,9 +20,14 @@ public final class FaceTest {
         "int forget()", "int fits()", "int year(int,int,int)", "int image(int)", "int restore(int)", "int told(int)");
     private static final Set<String> CONSTANTS = Set.of("UNKNOWN", "OUTSIDE", "STATE", "FULL", "NO", "NONE", "GONE");
 
+    private static final int MOST_CLASSES = 12;
+    private static final int MOST_PARAMETERS = 7;
+    private static final int MOST_LINES = 60;
+
     public static void main(String[] args) throws Exception {
         methods();
         fieldsAndConstructors();
+        values();
         classesInside();
         rules(Files.readString(SOURCE, StandardCharsets.US_ASCII));
         CHECKS.end("FaceTest");
@@ -71,11 +76,42 @@ public final class FaceTest {
         CHECKS.holds("the class is final", Modifier.isFinal(CandleCourt.class.getModifiers()));
     }
 
+    /** Asked of the class itself: what a test names was put into it when it was compiled. */
+    private static void values() throws ReflectiveOperationException {
+        String[] names = {"UNKNOWN", "OUTSIDE", "STATE", "FULL", "NO", "NONE"};
+        for (int i = 0; i < names.length; i++) {
+            Field field = CandleCourt.class.getField(names[i]);
+            CHECKS.holds(names[i] + " is an int", field.getType() == int.class);
+            CHECKS.due(names[i], field.getInt(null), -1 - i);
+        }
+        Field gone = CandleCourt.class.getField("GONE");
+        CHECKS.holds("GONE is a long", gone.getType() == long.class);
+        CHECKS.due("GONE", gone.getLong(null), -1000000000000000000L);
+    }
+
     private static void classesInside() {
+        int classes = CandleCourt.class.getDeclaredClasses().length + 1;
+        CHECKS.holds("the file has " + classes + " classes", classes <= MOST_CLASSES);
+        parameters(CandleCourt.class);
         for (Class<?> inside : CandleCourt.class.getDeclaredClasses()) {
+            parameters(inside);
+            namesOfTheirOwn(inside);
             CHECKS.holds(inside + " is private", Modifier.isPrivate(inside.getModifiers()));
             CHECKS.holds(inside + " is static", Modifier.isStatic(inside.getModifiers()));
             CHECKS.holds(inside + " has some twenty fields", inside.getDeclaredFields().length <= 20);
+        }
+    }
+
+    private static void parameters(Class<?> owner) {
+        for (Method method : owner.getDeclaredMethods()) {
+            CHECKS.holds(method + " takes few parameters", method.getParameterCount() <= MOST_PARAMETERS);
+        }
+    }
+
+    private static void namesOfTheirOwn(Class<?> inside) {
+        for (Method method : inside.getDeclaredMethods()) {
+            boolean ofTheFace = FACE.stream().anyMatch(call -> call.contains(" " + method.getName() + "("));
+            CHECKS.holds(method + " bears a name of its own", !ofTheFace);
         }
     }
 
@@ -88,6 +124,25 @@ public final class FaceTest {
             CHECKS.holds("no " + rule + " in the source", !Pattern.compile(rule).matcher(code).find());
         }
         noCallMakesObjects(code);
+        shortMethods(source.split("\n"));
+    }
+
+    /** A method of the class or of one inside begins at the fourth or the eighth sign, and ends there by a brace. */
+    private static void shortMethods(String[] lines) {
+        int methods = 0;
+        for (int i = 0; i < lines.length; i++) {
+            if (!lines[i].matches("( {4}| {8})(public|private|int|long|void|boolean|static|final)\\b.*\\) \\{")) {
+                continue;
+            }
+            String end = lines[i].substring(0, lines[i].length() - lines[i].stripLeading().length()) + "}";
+            int last = i;
+            while (last < lines.length && !lines[last].equals(end)) {
+                last++;
+            }
+            methods++;
+            CHECKS.holds("short enough: " + lines[i].strip(), last < lines.length && last - i < MOST_LINES);
+        }
+        CHECKS.holds("methods are found, not " + methods, methods > FACE.size());
     }
 
     /** All calls of a run live in one room: rows are made by the constructor or as fields of what it makes. */
